@@ -5,6 +5,7 @@ final class DeliverTest {
         toTheOtherEnd();
         processedOnce();
         spoiltPackets();
+        firstBytesAbove15();
         firstNumbers();
         numbersNearTheExpected();
         numbersBelowTheExpected();
@@ -69,6 +70,37 @@ final class DeliverTest {
         x.spoil(0, 2, 5);
         x.spoil(0, 2, 5);
         Check.due("mended", x.deliver(0), 0);
+    }
+
+    private static int sealOf(int... bytes) {
+        int c = 40503;
+        for (int b : bytes) {
+            c = (c ^ b) * 16777619;
+        }
+        return c >>> 16;
+    }
+
+    /** The packet 0, 2, 0, 0, 2, 1 gets another first byte, and the seal that fits to it. */
+    private static void firstBytesAbove15() {
+        for (int first : new int[] {16, 32, 240}) {
+            StreamTransport x = new StreamTransport(0, 0);
+            Check.fill(x, 0, 0, 1);
+            x.send(0);
+            int change = sealOf(0, 2, 0, 0, 2, 1) ^ sealOf(first, 2, 0, 0, 2, 1);
+            x.spoil(0, 0, first);
+            x.spoil(0, 6, change >> 8);
+            x.spoil(0, 7, change & 255);
+            Check.due("first byte " + first + ", rightly sealed", x.deliver(0), 1);
+        }
+        StreamTransport x = new StreamTransport(0, 0);
+        Check.fill(x, 0, 0, 1);
+        x.send(0);
+        int change = sealOf(0, 2, 0, 0, 2, 1) ^ sealOf(5, 2, 0, 0, 2, 1) ^ 5;
+        x.spoil(0, 0, 5);
+        x.spoil(0, 6, change >> 8);
+        x.spoil(0, 7, change & 255);
+        Check.due("first byte 5, rightly sealed", x.deliver(0), 0);
+        Check.due("its number", x.about(1, 4), 5);
     }
 
     private static void firstNumbers() {

@@ -44,6 +44,9 @@ final class FrameTest {
         Check.due("a number begins with 255", Check.codeOf(6, 255, 0, 0, 0), 1);
         Check.due("two bytes, one missing", Check.codeOf(3, 64), 1);
         Check.due("four bytes, one missing", Check.codeOf(3, 128, 0, 0), 1);
+        Check.due("the second byte of two is missing", Check.codeOf(3, 65), 1);
+        Check.due("the last byte of four is missing", Check.codeOf(3, 129, 2, 3), 1);
+        Check.due("the last byte of a second number is missing", Check.codeOf(4, 0, 129, 2, 3), 1);
         Check.due("far too few bytes", Check.codeOf(2, 0, 0, 191, 255, 255, 255, 1), 1);
         Check.due("behind a right one", Check.codeOf(0, 9), 1);
     }
@@ -181,6 +184,7 @@ final class FrameTest {
         Check.due("a range at 0", codeOfAck(1, 9, 1, 1, 5, 1), -1);
         Check.due("a range below 0", codeOfAck(1, 9, 1, 1, 5, 2), 5);
         Check.due("a range that begins below 0", codeOfAck(1, 9, 1, 1, 7, 0), 5);
+        Check.due("a range below one that ends at 0", codeOfAck(1, 9, 9, 1, 0, 0), 5);
         Check.due("the second range at 0", codeOfAck(1, 9, 1, 2, 0, 0, 3, 1), -1);
         Check.due("the second range below 0", codeOfAck(1, 9, 1, 2, 0, 0, 3, 2), 5);
         int[] far = {1, 9, 0, 2, 191, 255, 255, 255, 191, 255, 255, 255, 191, 255, 255, 255, 191, 255, 255, 255};

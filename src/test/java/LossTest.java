@@ -3,6 +3,7 @@ final class LossTest {
     public static void main(String[] args) {
         threeNumbersAbove();
         lostRunsAreSentApart();
+        furtherRanges();
         lostGoesAheadOfFresh();
         ackedStaysAcked();
         ackOfALostPacketCountsForNothing();
@@ -47,6 +48,22 @@ final class LossTest {
         Check.due("1 and 5 are acked", x.stream(0, 0, 2), 2);
         Check.sends("0", x, 0, 6, 2, 0, 0, 2, 1);
         Check.sends("2, not 3 and 4", x, 0, 7, 2, 0, 2, 2, 3);
+        Check.due("nothing more", x.send(0), -1);
+    }
+
+    private static void furtherRanges() {
+        StreamTransport x = new StreamTransport(15, 31);
+        for (int i = 0; i < 13; i++) {
+            Check.fill(x, 0, 0, 1);
+            x.send(0);
+            x.lose(0);
+        }
+        // Acked are 12, 9 and 8, and 5 to 3.
+        Check.craft(x, 0, 0, 1, 12, 0, 2, 1, 1, 1, 2);
+        Check.due("acked", x.stream(0, 0, 2), 6);
+        Check.due("10 and 11 wait", x.about(0, 1), 2);
+        Check.sends("0 to 2", x, 0, 13, 2, 0, 0, 6, 1, 2, 3);
+        Check.sends("6 and 7", x, 0, 14, 2, 0, 6, 4, 7, 8);
         Check.due("nothing more", x.send(0), -1);
     }
 

@@ -47,6 +47,12 @@ final class NetworkTest {
         for (int i = -2; i < 9; i++) {
             Check.due("byte " + i + " of the copy", x.packet(3, i), x.packet(1, i));
         }
+        Check.fill(x, 1, 0, 1);
+        x.send(1);
+        x.copy(4);
+        Check.due("the copy's sender", x.packet(5, -2), 1);
+        Check.due("the copy comes to the other end", x.deliver(5), 0);
+        Check.due("end 0 got it", x.stream(0, 0, 6), 1);
         x.spoil(1, 5, 7);
         Check.due("the copy stays", x.packet(3, 5), 2);
         Check.due("the copy comes", x.deliver(3), 0);
@@ -80,6 +86,8 @@ final class NetworkTest {
         Check.due("byte 0", x.packet(1, 0), 254);
         Check.due("place 4", x.spoil(1, 4, 6), true);
         Check.due("byte 4", x.packet(1, 4), 4);
+        Check.due("bits 1", x.spoil(1, 3, 1), true);
+        Check.due("byte 3", x.packet(1, 3), 0);
         int last = x.packet(1, 7);
         Check.due("the last place", x.spoil(1, 7, 129), true);
         Check.due("byte 7", x.packet(1, 7), last ^ 129);

@@ -109,6 +109,8 @@ final class ReadTest {
         Check.due("given", x.stream(1, 0, 8), 64);
         pump(x);
         Check.drain(x, 1, 0, 19);
+        Check.due("64 is given but once: the limit for all alone is due", x.send(1), 6);
+        Check.due("all bytes are acked", x.stream(0, 0, 2), 64);
         Check.due("all limits", x.stream(0, 0, 3), 64);
         Check.due("all was read", x.stream(1, 0, 5), 64);
         Check.due("never above 64", x.stream(1, 0, 8), 64);
@@ -175,8 +177,12 @@ final class ReadTest {
         for (s = 0; s < 4; s++) {
             while (x.stream(1, s, 6) > 0) {
                 x.read(1, s);
+                if (s == 3 && x.stream(1, s, 5) == 64) {
+                    Check.due("256 is given but once", x.send(1), -1);
+                }
                 pump(x);
             }
+            Check.due("64 of the stream is acked", x.stream(0, s, 2), 64);
             Check.due("all was read", x.stream(1, s, 5), 64);
         }
         Check.due("never above 256", x.about(1, 3), 256);

@@ -11,6 +11,7 @@ final class SendTest {
         roomForStreams();
         roomForLimits();
         noRoomForAByte();
+        roomForTheLastReset();
         ackRanges();
         ackOfFarNumbers();
         ackAloneIsNotTimed();
@@ -158,6 +159,26 @@ final class SendTest {
 
     /** ACK 8, LIMIT-ALL 3, LIMITs 16, RESETs 12 bytes: the last has no room, and stays to be sent. */
     private static void roomForLimits() {
+        StreamTransport x = withAllLimitsDue();
+        Check.craft(x, 0, 21, 0);
+        Check.craft(x, 0, 24, 0);
+        Check.sends("all that there is room for", x, 0, 4, 1, 24, 0, 2, 1, 0, 0, 19, 3, 64, 219,
+            4, 0, 64, 64, 4, 1, 64, 64, 4, 2, 64, 64, 4, 3, 64, 64, 5, 0, 0, 5, 1, 0, 5, 2, 0);
+        Check.due("given", x.about(0, 3), 219);
+        Check.sends("what had no room", x, 0, 5, 5, 3, 0);
+    }
+
+    /** The same with an ACK of 6 bytes: 37 bytes of frames. */
+    private static void roomForTheLastReset() {
+        StreamTransport x = withAllLimitsDue();
+        Check.craft(x, 0, 21, 0);
+        Check.sends("all", x, 0, 4, 1, 21, 0, 1, 0, 19, 3, 64, 219, 4, 0, 64, 64, 4, 1, 64, 64,
+            4, 2, 64, 64, 4, 3, 64, 64, 5, 0, 0, 5, 1, 0, 5, 2, 0, 5, 3, 0);
+        Check.due("nothing is left", x.send(0), -1);
+    }
+
+    /** End 0 got 20 packets and sent 20, and has all limits and four resets to send. */
+    private static StreamTransport withAllLimitsDue() {
         StreamTransport x = new StreamTransport(15, 31);
         int number = 0;
         for (int place = 0; place < 45; place += 9) {
@@ -177,16 +198,15 @@ final class SendTest {
             Check.due("byte", Check.read(x, 0, s), 1);
             x.reset(0, s);
         }
-        Check.craft(x, 0, number + 1, 0);
-        Check.craft(x, 0, number + 4, 0);
-        int first = x.about(0, 0);
-        Check.sends("all that there is room for", x, 0, first % 16, 1, 24, 0, 2, 1, 0, 0, 19, 3, 64, 219,
-            4, 0, 64, 64, 4, 1, 64, 64, 4, 2, 64, 64, 4, 3, 64, 64, 5, 0, 0, 5, 1, 0, 5, 2, 0);
-        Check.due("given", x.about(0, 3), 219);
-        Check.sends("what had no room", x, 0, (first + 1) % 16, 5, 3, 0);
+        Check.due("next number", x.about(0, 0), 20);
+        return x;
     }
 
     private static void ackRanges() {
+        StreamTransport y = new StreamTransport(0, 0);
+        Check.craft(y, 0, 0, 0);
+        Check.craft(y, 0, 2, 0);
+        Check.sends("two ranges, the lower one is 0 alone", y, 0, 0, 1, 2, 0, 1, 0, 0);
         StreamTransport x = new StreamTransport(0, 0);
         int[] numbers = {0, 1, 3, 5, 6, 7, 9, 12};
         for (int n : numbers) {
