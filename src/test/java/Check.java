@@ -50,8 +50,13 @@ final class Check {
     /** Writes n bytes, each its place + 1 (from 1 on), and says how many the stream has. */
     static int fill(StreamTransport x, int end, int stream, int n) {
         int at = x.stream(end, stream, 0);
-        for (int i = 0; i < n; i++) {
-            at = x.write(end, stream, 1, at + 1);
+        for (int left = n; left > 0; left -= 8) {
+            int some = Math.min(8, left);
+            long w = 0;
+            for (int i = some; i > 0; i--) {
+                w = w << 8 | (at + i);
+            }
+            at = x.write(end, stream, some, w);
         }
         return at;
     }
@@ -66,8 +71,14 @@ final class Check {
 
     /** A packet with these bytes as its frames comes to an end. */
     static int craft(StreamTransport x, int end, int number, int... frames) {
-        for (int b : frames) {
-            x.raw(1, b);
+        // As few calls as may be: an object has 512 of them.
+        for (int at = 0; at < frames.length; at += 8) {
+            int n = Math.min(8, frames.length - at);
+            long w = 0;
+            for (int i = n - 1; i >= 0; i--) {
+                w = w << 8 | frames[at + i];
+            }
+            x.raw(n, w);
         }
         return x.craft(end, number);
     }
@@ -104,6 +115,35 @@ final class Check {
         for (int i = 0; i < n; i++) {
             x.tick();
         }
+    }
+
+    /** All that can be asked about an end. */
+    static String state(StreamTransport x, int end) {
+        StringBuilder text = new StringBuilder("closed ").append(x.closed(end)).append(" about");
+        for (int what = 0; what < 6; what++) {
+            text.append(' ').append(x.about(end, what));
+        }
+        for (int s = 0; s < 4; s++) {
+            text.append(" stream");
+            for (int what = 0; what < 9; what++) {
+                text.append(' ').append(x.stream(end, s, what));
+            }
+        }
+        return text.toString();
+    }
+
+    /** All that can be asked about the packets that are under way. */
+    static String way(StreamTransport x) {
+        StringBuilder text = new StringBuilder("way");
+        int packets = x.packets();
+        for (int k = 0; k < packets; k++) {
+            text.append(" from ").append(x.packet(k, -2)).append(':');
+            int size = x.packet(k, -1);
+            for (int i = 0; i < size; i++) {
+                text.append(' ').append(x.packet(k, i));
+            }
+        }
+        return text.toString();
     }
 
     /** To be called last: ends the test with exit code 1 when an answer was wrong. */

@@ -95,7 +95,8 @@ final class ReadTest {
     private static void streamLimitOf64() {
         StreamTransport x = new StreamTransport(15, 31);
         Check.fill(x, 0, 0, 64);
-        for (int read = 0; read < 44; ) {
+        int read = 0;
+        for (int round = 0; round < 44 && read < 44; round++) {
             pump(x);
             int n = Math.min(x.stream(1, 0, 6), 44 - read);
             Check.drain(x, 1, 0, n);
@@ -124,7 +125,7 @@ final class ReadTest {
             if (x.packets() == 0) {
                 return;
             }
-            while (x.packets() > 0) {
+            for (int left = x.packets(); left > 0; left--) {
                 x.deliver(0);
             }
         }
@@ -144,48 +145,56 @@ final class ReadTest {
         Check.due("other end, as it was lost", x.about(0, 2), 9);
     }
 
+    /** End 1 reads 45 bytes of each stream and then has its limit at 64, which a reset uses up. */
     private static void limitForAllOf256() {
         StreamTransport x = new StreamTransport(15, 31);
-        for (int s = 0; s < 4; s++) {
-            for (int i = 0; i < 8; i++) {
-                x.write(0, s, 8, 0);
-            }
+        int number = 0;
+        for (int s = 0; s < 3; s++) {
+            number = readTo(x, s, 45, number);
+            Check.craft(x, 1, number++, 5, s, 64, 64);
+            x.send(1);
         }
-        int read = 0;
-        for (int round = 0; round < 100 && read < 216; round++) {
-            pump(x);
-            for (int s = 0; s < 4; s++) {
-                while (x.stream(1, s, 6) > 0 && read < 216) {
-                    x.read(1, s);
-                    read++;
-                }
-            }
+        number = readTo(x, 3, 24, number);
+        Check.due("u is 216", x.about(1, 3) < 256, true);
+        x.send(1);
+        for (int left = x.packets(); left > 0; left--) {
+            x.lose(0);
         }
-        pump(x);
+        Check.craft(x, 1, number++, 2, 3, 24, 2, 25);
+        Check.sends("ack", x, 1, x.about(1, 0) % 16, 1, number - 1, number - 1, 0);
         int given = x.about(1, 3);
-        Check.due("read", read, 216);
         Check.due("given is near 256", given > 256 - 19 && given < 256, true);
-        int s = 0;
-        while (s < 3 && x.stream(1, s, 6) == 0) {
-            s++;
-        }
-        x.read(1, s);
-        Check.due("256 is due", x.send(1) > 0, true);
+        Check.drain(x, 1, 3, 1);
+        Check.sends("256 is due, by less than half a window", x, 1, x.about(1, 0) % 16, 3, 65, 0);
         Check.due("given", x.about(1, 3), 256);
-        pump(x);
-        Check.due("other end", x.about(0, 2), 256);
-        for (s = 0; s < 4; s++) {
-            while (x.stream(1, s, 6) > 0) {
-                x.read(1, s);
-                if (s == 3 && x.stream(1, s, 5) == 64) {
-                    Check.due("256 is given but once", x.send(1), -1);
-                }
-                pump(x);
-            }
-            Check.due("64 of the stream is acked", x.stream(0, s, 2), 64);
-            Check.due("all was read", x.stream(1, s, 5), 64);
-        }
+        number = readTo(x, 3, 45, number);
+        Check.craft(x, 1, number, 5, 3, 64, 64);
+        Check.due("not closed", x.closed(1), -1);
+        x.send(1);
         Check.due("never above 256", x.about(1, 3), 256);
+    }
+
+    /** Bytes of a stream come to end 1 and are read, up to a place; what end 1 sends then is passed over. */
+    private static int readTo(StreamTransport x, int stream, int place, int number) {
+        int next = number;
+        for (int at = x.stream(1, stream, 5); at < place; at += 12) {
+            int n = Math.min(12, place - at);
+            int[] frame = new int[4 + n];
+            frame[0] = 2;
+            frame[1] = stream;
+            frame[2] = at;
+            frame[3] = 2 * n;
+            for (int i = 0; i < n; i++) {
+                frame[4 + i] = at + i + 1;
+            }
+            Check.due("craft", Check.craft(x, 1, next, frame), 0);
+            next++;
+            for (int i = 0; i < n; i++) {
+                Check.due("byte", Check.read(x, 1, stream), at + i + 1);
+            }
+            x.send(1);
+        }
+        return next;
     }
 
     private static void resetCountsForAll() {

@@ -250,7 +250,7 @@ final class SendTest {
         StreamTransport x = new StreamTransport(0, 0);
         Check.fill(x, 0, 0, 1);
         x.send(0);
-        while (x.packets() < 16) {
+        for (int i = 0; i < 15; i++) {
             x.copy(0);
         }
         Check.fill(x, 0, 0, 1);
