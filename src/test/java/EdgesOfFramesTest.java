@@ -82,6 +82,9 @@ final class EdgesOfFramesTest {
     private static void ackWithTwoFurtherRanges() {
         acks("12, 10 and 8", 3, 1, 1, 12, 0, 2, 0, 0, 0, 0);
         acks("12, 10 to 8, 6 to 0", 11, 1, 1, 12, 0, 2, 0, 2, 0, 6);
+        acks("12, 10 and 6", 3, 1, 1, 12, 0, 2, 0, 0, 2, 0);
+        acks("12 and 11, 8, 6 to 5", 5, 1, 1, 12, 1, 2, 1, 0, 0, 1);
+        acks("12, 9, 5 and 4", 4, 2, 1, 12, 0, 2, 1, 0, 2, 1);
         acks("2, 1 left out, 0", 2, 11, 1, 2, 0, 1, 0, 0);
         acks("4, 2 and 0: 1 is lost, 3 waits", 3, 9, 1, 4, 0, 2, 0, 0, 0, 0);
     }

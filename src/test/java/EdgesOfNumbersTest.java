@@ -12,6 +12,7 @@ final class EdgesOfNumbersTest {
         bytesOfANumberMissing();
         kindsAreNoNumbers();
         ackOf63And64();
+        ackOfGreatNumbers();
         furtherRangeOf63And64();
         placeOf63And64();
         sizeOf63And64();
@@ -151,6 +152,25 @@ final class EdgesOfNumbersTest {
         Check.sends("63 in one byte", x, 0, 0, 1, 63, 63, 0);
         Check.craft(x, 0, 64, 0);
         Check.sends("64 in two bytes", x, 0, 1, 1, 64, 64, 64, 64, 0);
+    }
+
+    /** "Sent are numbers in as few bytes as may be": the greatest number that 512 calls can reach, in two bytes. */
+    private static void ackOfGreatNumbers() {
+        StreamTransport x = new StreamTransport(0, 0);
+        int number = 15;
+        for (int i = 0; i < 490; i++) {
+            x.craft(0, number);
+            number += 9;
+        }
+        Check.craft(x, 0, number, 0);
+        Check.due("greatest", x.about(0, 4), 15 + 490 * 9);
+        Check.sends("4425 is 17 * 256 + 73", x, 0, 0, 1, 64 + 17, 73, 0, 2, 7, 0, 7, 0);
+        StreamTransport y = new StreamTransport(0, 0);
+        for (int n = 0; n < 320; n++) {
+            y.craft(0, n);
+        }
+        Check.craft(y, 0, 320, 0);
+        Check.sends("320, twice", y, 0, 0, 1, 65, 64, 65, 64, 0);
     }
 
     /** "Sent are numbers in as few bytes as may be": the last number of an ACK. */

@@ -20,6 +20,7 @@ final class EdgesOfSendingTest {
         noPingWithoutAProbe();
         upToTwelveBytes();
         upToTwelveLostBytes();
+        lostBytesUpToThe64th();
         leastLostPlaceFirst();
         lostOnesFirst();
         runsOfTheSameSort();
@@ -292,6 +293,30 @@ final class EdgesOfSendingTest {
         Check.sends("twelve", x, 0, packet(1, 0, 0, 24, 12));
         Check.sends("two", x, 0, packet(2, 0, 12, 4, 2));
         Check.due("nothing more", x.send(0), -1);
+    }
+
+    /** "as many as follow": up to the last byte that a stream can have, with and without the end. */
+    private static void lostBytesUpToThe64th() {
+        for (int end = 0; end < 2; end++) {
+            StreamTransport x = new StreamTransport(15, 31);
+            Check.craft(x, 0, 0, 4, 1, 64, 64, 3, 64, 64);
+            Check.fill(x, 0, 1, 60);
+            for (int i = 0; i < 5; i++) {
+                x.send(0);
+                x.lose(0);
+            }
+            Check.craft(x, 0, 1, 1, 4, 4, 0);
+            Check.due("acked", x.stream(0, 1, 2), 60);
+            Check.fill(x, 0, 1, 4);
+            x.send(0);
+            x.lose(0);
+            if (end == 1) {
+                x.finish(0, 1);
+            }
+            Check.ticks(x, 6);
+            Check.sends("the last four", x, 0, packet(6, 1, 60, 8 + end, 4));
+            Check.due("nothing more", x.send(0), -1);
+        }
     }
 
     /** Six packets of end 0 with a byte each, of which so many as this ACK says are acked. */
@@ -599,37 +624,32 @@ final class EdgesOfSendingTest {
 
     /** "each as long as there is room for it": a RESET of 3 bytes; what has no room stays to be sent. */
     private static void roomForAReset() {
-        for (int ranges = 1; ranges <= 3; ranges++) {
-            StreamTransport x = new StreamTransport(15, 31);
-            int number = readAll(x);
-            for (int i = 1; i < ranges; i++) {
-                number += 2;
-                Check.craft(x, 0, number, 0);
+        for (int ack = 4; ack <= 8; ack++) {
+            if (ack == 5) {
+                continue;
             }
+            StreamTransport x = new StreamTransport(15, 31);
+            withLimitsAndAck(x, ack);
             for (int s = 0; s < 4; s++) {
                 x.reset(0, s);
             }
-            int ack = ranges == 1 ? 0 : 2 + 2 * ranges;
-            int room = 37 - ack - 3 - 16;
-            int resets = Math.min(4, room / 3);
-            Check.due("with " + ranges + " ranges", x.send(0), 3 + ack + 3 + 16 + 3 * resets);
+            int resets = Math.min(4, (37 - ack - 3 - 16) / 3);
+            Check.due("with an ACK of " + ack + " bytes", x.send(0), 3 + ack + 3 + 16 + 3 * resets);
             x.lose(0);
-            int[] rest = new int[] {x.about(0, 0) % 16, 5, 3, 0};
             if (resets == 3) {
-                Check.sends("the last RESET", x, 0, rest);
+                Check.sends("the last RESET", x, 0, x.about(0, 0) % 16, 5, 3, 0);
             }
             Check.due("nothing more", x.send(0), -1);
         }
     }
 
-    /** End 0 has read 45 bytes of each stream, so that LIMIT-ALL and four LIMITs in 19 bytes are due. */
-    private static int readAll(StreamTransport x) {
-        int number = 0;
-        int[] bytes = new int[9];
+    /** An ACK of so many bytes is due, LIMIT-ALL in 3 and four LIMITs in 4 bytes each, as 45 bytes of each stream were read. */
+    private static void withLimitsAndAck(StreamTransport x, int ack) {
+        // The first number may be as great as 15; then no range is below it.
+        int number = 15;
         for (int place = 0; place < 45; place += 9) {
             for (int s = 0; s < 4; s++) {
-                int[] frame = Arrays.copyOf(new int[] {2, s, place, 18}, 4 + bytes.length);
-                Check.craft(x, 0, number++, frame);
+                Check.craft(x, 0, number++, Arrays.copyOf(new int[] {2, s, place, 18}, 13));
                 for (int i = 0; i < (place == 36 ? 8 : 9); i++) {
                     x.read(0, s);
                 }
@@ -640,6 +660,15 @@ final class EdgesOfSendingTest {
         for (int s = 0; s < 4; s++) {
             x.read(0, s);
         }
-        return number - 1;
+        if (ack == 7) {
+            while (number < 63) {
+                x.craft(0, number++);
+            }
+        }
+        if (ack == 8) {
+            Check.craft(x, 0, number + 1, 0);
+            number += 2;
+        }
+        Check.craft(x, 0, ack == 4 ? number : number + 1, 0);
     }
 }
