@@ -46,47 +46,68 @@ final class EdgesOfFramesTest {
         return x;
     }
 
-    private static void acks(String what, int acked, int waiting, int... frame) {
+    /** An ACK comes: which packets are acked, as a bit for each, is told by those that are lost by it. */
+    private static void acks(String what, int acked, int... frame) {
         StreamTransport x = thirteenSent();
         Check.due(what, Check.craft(x, 0, 0, frame), 0);
         Check.due(what + ", closed", x.closed(0), -1);
-        Check.due(what + ", acked", x.stream(0, 0, 2), acked);
-        Check.due(what + ", neither acked nor lost", x.about(0, 1), waiting);
+        Check.due(what + ", how many are acked", x.stream(0, 0, 2), Integer.bitCount(acked));
+        int overtaken = Integer.highestOneBit(acked) / 8 * 2 - 1;
+        int lost = overtaken > 0 ? overtaken & ~acked : 0;
+        Check.due(what + ", waiting", x.about(0, 1), 13 - Integer.bitCount(acked) - Integer.bitCount(lost));
+        int again = 0;
+        for (int i = 0; i < 13 && x.send(0) != -1; i++) {
+            int k = x.packets() - 1;
+            if (x.packet(k, 1) == 2) {
+                again |= (1 << x.packet(k, 4) / 2) - 1 << x.packet(k, 3);
+            }
+        }
+        Check.due(what + ", which are lost", again, lost);
+    }
+
+    private static int bits(int... numbers) {
+        int bits = 0;
+        for (int n : numbers) {
+            bits |= 1 << n;
+        }
+        return bits;
     }
 
     /** "acknowledged are the packets l - f .. l" */
     private static void ackOfOnePacketAndOfAll() {
-        acks("the first", 1, 12, 1, 0, 0, 0);
-        acks("the last", 1, 2, 1, 12, 0, 0);
-        acks("the last two", 2, 1, 1, 12, 1, 0);
-        acks("all", 13, 0, 1, 12, 12, 0);
-        acks("all but the first", 12, 0, 1, 12, 11, 0);
+        acks("the first", bits(0), 1, 0, 0, 0);
+        acks("the last", bits(12), 1, 12, 0, 0);
+        acks("the last two", bits(12, 11), 1, 12, 1, 0);
+        acks("all", 8191, 1, 12, 12, 0);
+        acks("all but the first", 8190, 1, 12, 11, 0);
+        acks("some", bits(7, 6, 5), 1, 7, 2, 0);
     }
 
     /** "r (0 .. 2)": with 0 the frame ends there. */
     private static void ackWithoutFurtherRanges() {
-        acks("a PING behind it", 1, 12, 1, 0, 0, 0, 0);
-        acks("two frames", 2, 11, 1, 0, 0, 0, 1, 1, 0, 0);
+        acks("a PING behind it", bits(0), 1, 0, 0, 0, 0);
+        acks("two frames", bits(0, 1), 1, 0, 0, 0, 1, 1, 0, 0);
     }
 
     /** "the n + 1 packets from s - g - 2 downwards": g 0 leaves out one packet, n 0 is one packet. */
     private static void ackOfAPacketBeyondASmallestGap() {
-        acks("12 and 10", 2, 1, 1, 12, 0, 1, 0, 0);
-        acks("12 and 9", 2, 2, 1, 12, 0, 1, 1, 0);
-        acks("12, 10 and 9", 3, 1, 1, 12, 0, 1, 0, 1);
-        acks("12 to 2, and 0", 12, 0, 1, 12, 10, 1, 0, 0);
-        acks("12 and 0", 2, 2, 1, 12, 0, 1, 10, 0);
+        acks("12 and 10", bits(12, 10), 1, 12, 0, 1, 0, 0);
+        acks("12 and 9", bits(12, 9), 1, 12, 0, 1, 1, 0);
+        acks("12, 10 and 9", bits(12, 10, 9), 1, 12, 0, 1, 0, 1);
+        acks("12, 8 to 6", bits(12, 8, 7, 6), 1, 12, 0, 1, 2, 2);
+        acks("12 to 2, and 0", 8191 - 2, 1, 12, 10, 1, 0, 0);
+        acks("12 and 0", bits(12, 0), 1, 12, 0, 1, 10, 0);
+        acks("2 and 0", bits(2, 0), 1, 2, 0, 1, 0, 0);
     }
 
     /** "each time, s being the least so far" */
     private static void ackWithTwoFurtherRanges() {
-        acks("12, 10 and 8", 3, 1, 1, 12, 0, 2, 0, 0, 0, 0);
-        acks("12, 10 to 8, 6 to 0", 11, 1, 1, 12, 0, 2, 0, 2, 0, 6);
-        acks("12, 10 and 6", 3, 1, 1, 12, 0, 2, 0, 0, 2, 0);
-        acks("12 and 11, 8, 6 to 5", 5, 1, 1, 12, 1, 2, 1, 0, 0, 1);
-        acks("12, 9, 5 and 4", 4, 2, 1, 12, 0, 2, 1, 0, 2, 1);
-        acks("2, 1 left out, 0", 2, 11, 1, 2, 0, 1, 0, 0);
-        acks("4, 2 and 0: 1 is lost, 3 waits", 3, 9, 1, 4, 0, 2, 0, 0, 0, 0);
+        acks("12, 10 and 8", bits(12, 10, 8), 1, 12, 0, 2, 0, 0, 0, 0);
+        acks("12, 10 to 8, 6 to 0", bits(12, 10, 9, 8, 6, 5, 4, 3, 2, 1, 0), 1, 12, 0, 2, 0, 2, 0, 6);
+        acks("12, 10 and 6", bits(12, 10, 6), 1, 12, 0, 2, 0, 0, 2, 0);
+        acks("12 and 11, 8, 6 and 5", bits(12, 11, 8, 6, 5), 1, 12, 1, 2, 1, 0, 0, 1);
+        acks("12, 9, 5 and 4", bits(12, 9, 5, 4), 1, 12, 0, 2, 1, 0, 2, 1);
+        acks("4, 2 and 0", bits(4, 2, 0), 1, 4, 0, 2, 0, 0, 0, 0);
     }
 
     /** "r (0 .. 2)", "r above 2": 3 is too many, whether its numbers are there or not. */
